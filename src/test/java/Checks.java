@@ -1,0 +1,49 @@
+import java.util.Objects;
+
+/** What the tests have in common: they count what is wrong, and print it. */
+final class Checks {
+    private static int wrong = 0;
+
+    private Checks() {
+    }
+
+    static void same(String call, Object got, Object due) {
+        if (!Objects.equals(got, due)) {
+            fault(call + " answered " + got + ", due is " + due);
+        }
+    }
+
+    static void fault(String text) {
+        wrong++;
+        if (wrong <= 40) {
+            System.out.println("wrong: " + text);
+        }
+    }
+
+    static void throwsIndex(String call, Runnable run) {
+        throwsOne(call, run, IndexOutOfBoundsException.class);
+    }
+
+    static void throwsArgument(String call, Runnable run) {
+        throwsOne(call, run, IllegalArgumentException.class);
+    }
+
+    static void throwsState(String call, Runnable run) {
+        throwsOne(call, run, IllegalStateException.class);
+    }
+
+    private static void throwsOne(String call, Runnable run, Class<?> due) {
+        Class<?> got = null;
+        try {
+            run.run();
+        } catch (RuntimeException thrown) {
+            got = thrown.getClass();
+        }
+        same(call + " throws", got, due);
+    }
+
+    static void end(String name) {
+        System.out.println(name + ": " + (wrong == 0 ? "all as due" : wrong + " wrong"));
+        System.exit(wrong == 0 ? 0 : 1);
+    }
+}
