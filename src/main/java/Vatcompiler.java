@@ -20,6 +20,7 @@ public final class Vatcompiler {
     private static final int FRESH_GAIN = 5;
     private static final int FILL_WATER = 2;
     private static final int RINSE_WATER = 1;
+    private static final int TOO_MUCH = 1 << 20;
 
     private static final int DIP = 0;
     private static final int RINSE = 1;
@@ -564,8 +565,8 @@ public final class Vatcompiler {
         int second = dyes.size() > 1 ? 5 : 0;
         int third = dyes.size() > 2 ? 5 : 0;
         int best = 0;
-        int leastFar = Integer.MAX_VALUE;
-        int leastPrice = Integer.MAX_VALUE;
+        int leastFar = TOO_MUCH;
+        int leastPrice = TOO_MUCH;
         for (int a = 0; a <= 5; a++) {
             for (int b = 0; b <= second; b++) {
                 for (int c = 0; c <= third; c++) {
@@ -1158,7 +1159,6 @@ public final class Vatcompiler {
         private static final int MOST_FOUND = (MOST_STEPS + 1) * (MOST_STEPS + 1) * (MOST_STEPS + 1) * VAT_PAIRS;
         private static final int FILL_WEIGHT = 32;
         private static final int MOST_FILLS = PLANNED_HANKS * MOST_STEPS;
-        private static final int TOO_MUCH = 1 << 20;
 
         private final int[] prices = new int[MOST_DYES];
         private final int[][] rows = new int[PLANNED_HANKS][MOST_STEPS];
