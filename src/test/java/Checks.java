@@ -38,8 +38,18 @@ final class Checks {
             run.run();
         } catch (RuntimeException thrown) {
             got = thrown.getClass();
+            ownThrow(call, thrown);
         }
         same(call + " throws", got, due);
+    }
+
+    /** The program throws by itself; what the machine or the library threw in it would have another place on top. */
+    static void ownThrow(String call, RuntimeException thrown) {
+        StackTraceElement[] trace = thrown.getStackTrace();
+        boolean isOwn = trace.length > 0 && trace[0].getClassName().startsWith("Vatcompiler");
+        if (!isOwn || thrown.getMessage() == null || thrown.getMessage().matches(".*\\d.*length.*")) {
+            fault(call + " is thrown by the machine: " + thrown);
+        }
     }
 
     static void end(String name) {

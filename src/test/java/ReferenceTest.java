@@ -275,8 +275,8 @@ public final class ReferenceTest {
 
     private void compare(String call, Call ours, Call theirs) {
         long before = looksOften ? own.digest() : 0;
-        Object got = answer(ours);
-        Object wanted = answer(theirs);
+        Object got = answer(call, ours, true);
+        Object wanted = answer(call, theirs, false);
         told = told + " " + call;
         if (!got.equals(wanted)) {
             Checks.fault("run " + run + ":" + (told.length() > 3000 ? " .." : told) + " answered " + got + ", due is " + wanted);
@@ -286,11 +286,14 @@ public final class ReferenceTest {
         }
     }
 
-    private static Object answer(Call call) {
+    private static Object answer(String told, Call call, boolean isOwn) {
         try {
             Object answer = call.run();
             return answer instanceof Integer number ? Long.valueOf(number) : answer;
         } catch (RuntimeException thrown) {
+            if (isOwn) {
+                Checks.ownThrow(told, thrown);
+            }
             return thrown.getClass();
         }
     }
