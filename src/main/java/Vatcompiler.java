@@ -95,6 +95,7 @@ public final class Vatcompiler {
     public int line(int recipe, int kind, int what, int times)
             throws IndexOutOfBoundsException, IllegalArgumentException, IllegalStateException {
         Recipe told = recipeAt(recipe);
+        // Asked for its exception alone, which is due ahead of those below.
         if (kind == DIP) {
             dyeAt(what);
         }
