@@ -3,8 +3,14 @@ import java.util.Objects;
 /** What the tests have in common: they count what is wrong, and print it. */
 final class Checks {
     private static int wrong = 0;
+    private static String test = "";
 
     private Checks() {
+    }
+
+    /** What is wrong from here on is told behind this name. */
+    static void begin(String name) {
+        test = name.isEmpty() ? "" : name + ": ";
     }
 
     static void same(String call, Object got, Object due) {
@@ -16,7 +22,7 @@ final class Checks {
     static void fault(String text) {
         wrong++;
         if (wrong <= 40) {
-            System.out.println("wrong: " + text);
+            System.out.println("wrong: " + test + text);
         }
     }
 
@@ -32,7 +38,7 @@ final class Checks {
         throwsOne(call, run, IllegalStateException.class);
     }
 
-    private static void throwsOne(String call, Runnable run, Class<?> due) {
+    static void throwsOne(String call, Runnable run, Class<?> due) {
         Class<?> got = null;
         try {
             run.run();
