@@ -5,7 +5,8 @@ import java.util.Map;
 
 /** No sentence of the description, and no line "Returns .." or "Throws .." of a promise, is without a test that stands for it. */
 public final class DocumentTest {
-    private static final List<Class<?>> TESTS = List.of(PartsTest.class, EdgesTest.class, ThrowsTest.class);
+    private static final List<Class<?>> OF_PARTS = List.of(PartsTest.class, PlanPartsTest.class);
+    private static final List<Class<?>> OF_PROMISES = List.of(EdgesTest.class, ThrowsTest.class);
 
     private final Document document = new Document();
 
@@ -40,7 +41,7 @@ public final class DocumentTest {
     /** What is left of the text when all that tests stand for is struck out. */
     private void untold(String section, String text) {
         boolean[] isTold = new boolean[text.length()];
-        for (String sentence : said(section, List.of(PartsTest.class))) {
+        for (String sentence : said(section, OF_PARTS)) {
             int at = text.indexOf(sentence);
             for (int k = 0; at >= 0 && k < sentence.length(); k++) {
                 isTold[at + k] = true;
@@ -61,7 +62,7 @@ public final class DocumentTest {
             for (String line : document.lines(promise, "Throws ")) {
                 Checks.same(promise + " is tested: " + line, said(promise, List.of(ThrowsTest.class)).contains(line), true);
             }
-            boolean isSaid = !said(promise, TESTS).isEmpty();
+            boolean isSaid = !said(promise, OF_PROMISES).isEmpty();
             Checks.same(promise + " is tested", isSaid, true);
             returns(promise);
         }

@@ -514,6 +514,32 @@ public final class EdgesTest {
         Checks.same("asked twice", Answers.all(y), Answers.all(y));
     }
 
+    /** The same when the plan was asked ahead, when there were three hanks and nothing was in the vat. */
+    @Sentence("what would be (nothing is changed)")
+    private static void promise21PlanAskedAhead() {
+        for (boolean isAsked : new boolean[] {false, true}) {
+            Vatcompiler x = empty();
+            for (int price : new int[] {10, 20, 40, 80}) {
+                x.dye(0, 1, price, true, 0);
+            }
+            x.vat();
+            Recipes.tell(x, "3");
+            Recipes.hank(x, "0");
+            Recipes.hank(x, "1 2");
+            x.hank(0);
+            if (isAsked) {
+                Checks.same("three", numbers(5, x::plan), "150 4 150 3 4");
+                Checks.same("three", x.fills(), "0:0 0:1 0:2 0:3");
+            }
+            x.fill(0, 1);
+            x.dip(2, 0);
+            x.fill(0, 3);
+            x.dip(4, 0);
+            Checks.same("two are left", numbers(5, x::plan), "50 2 50 2 2");
+            Checks.same("two are left", x.fills(), "0:0 0:2");
+        }
+    }
+
     /** Some way on: foul, loose and slow ones, an air, water let out. */
     private static Vatcompiler middle() {
         Vatcompiler x = empty();

@@ -1,37 +1,7 @@
-/** The sentences of the description, each with a test of its own: at the bound, below it and above it. */
+/** The sentences of the description up to part 4, each with a test of its own: at the bound, below it and above it. */
 public final class PartsTest {
     public static void main(String[] args) {
         Sentences.run(PartsTest.class);
-    }
-
-    private static Vatcompiler empty() {
-        return new Vatcompiler();
-    }
-
-    /** One fast dye that makes no haste, depth and price 1, one vat filled with it, one hank of these lines. */
-    private static Vatcompiler withDye(int tint, String lines) {
-        return withDye(tint, true, 0, lines);
-    }
-
-    private static Vatcompiler withDye(int tint, boolean isFast, int slow, String lines) {
-        Vatcompiler x = empty();
-        x.dye(tint, 1, 1, isFast, slow);
-        Recipes.hank(x, lines);
-        x.vat();
-        x.fill(0, 0);
-        return x;
-    }
-
-    /** A fresh vat 0 with this strength; hours go by for it, six a day. */
-    private static void weaken(Vatcompiler x, int strength) {
-        int less = 30 - strength;
-        for (int k = 0; k < less / 6; k++) {
-            x.pass(24);
-        }
-        for (int k = 0; k < less % 6; k++) {
-            x.pass(4);
-        }
-        Checks.same("strength by hours", x.bath(false, 0, 1), strength);
     }
 
     private static void shade(String when, Vatcompiler x, int hank, int one, int two, int three) {
@@ -54,10 +24,10 @@ public final class PartsTest {
 
     @Sentence("All numbers are whole; what is divided is rounded down (nothing that is divided is below 0).")
     private static void part0Divided() {
-        Vatcompiler x = withDye(500, true, 1, "0");
-        weaken(x, 24);
+        Vatcompiler x = Streets.withDye(500, true, 1, "0");
+        Streets.weaken(x, 24);
         Checks.same("29 / 6", x.dip(1, 0), 4);
-        Vatcompiler y = withDye(100, true, 1, "0");
+        Vatcompiler y = Streets.withDye(100, true, 1, "0");
         y.dip(1, 0);
         y.pass(1);
         shade("5, and 5 / 2", y, 0, 7, 0, 0);
@@ -66,11 +36,11 @@ public final class PartsTest {
 
     @Sentence("NONE is -1.")
     private static void part0None() {
-        Vatcompiler x = withDye(100, "0");
+        Vatcompiler x = Streets.withDye(100, "0");
         Checks.same("no dye", x.bath(true, 0, 0), -1);
         Checks.same("no rescue", x.rescue(0), -1);
         Checks.same("none in the vat then", x.spill(0, 0), -1);
-        Vatcompiler y = empty();
+        Vatcompiler y = new Vatcompiler();
         y.dye(0, 1, 1, true, 0);
         Recipes.hank(y, "0");
         Checks.same("no plan", y.plan(0), -1);
@@ -78,7 +48,7 @@ public final class PartsTest {
 
     @Sentence("A set is the sum of 2^k for the numbers k in it.")
     private static void part0Set() {
-        Vatcompiler x = withDye(100, false, 0, "0");
+        Vatcompiler x = Streets.withDye(100, false, 0, "0");
         for (int k = 1; k < 10; k++) {
             x.hank(0);
         }
@@ -86,7 +56,7 @@ public final class PartsTest {
         for (int k = 0; k < 10; k++) {
             Checks.same("hank " + k, x.ofHank(k, 4), k == 0 || k == 3 || k == 9 ? 1 : 0);
         }
-        Vatcompiler y = empty();
+        Vatcompiler y = new Vatcompiler();
         for (int k = 0; k < 6; k++) {
             y.dye(0, 1, 1, false, 0);
         }
@@ -104,7 +74,7 @@ public final class PartsTest {
     @Sentence("X by X is by rising numbers; where one of several is taken and nothing else is said, it is that with the "
         + "smallest number.")
     private static void part0Smallest() {
-        Vatcompiler x = withDye(100, "r");
+        Vatcompiler x = Streets.withDye(100, "r");
         x.dye(300, 1, 1, true, 0);
         x.dye(200, 1, 1, true, 0);
         x.dye(200, 1, 1, true, 0);
@@ -116,7 +86,7 @@ public final class PartsTest {
 
     @Sentence("A method that throws an exception changes nothing.")
     private static void part0ThrowsAndChangesNothing() {
-        Vatcompiler x = withDye(100, "0*2");
+        Vatcompiler x = Streets.withDye(100, "0*2");
         String before = Answers.all(x);
         Checks.throwsState("a dip that the second one can not", () -> {
             x.hank(0);
@@ -126,7 +96,7 @@ public final class PartsTest {
         });
         Checks.same("of the second nothing", x.ofHank(1, 4), 0);
         Checks.same("strength", x.bath(false, 0, 1), 28);
-        Vatcompiler y = withDye(100, "0*2");
+        Vatcompiler y = Streets.withDye(100, "0*2");
         Checks.throwsArgument("no such line", () -> y.line(0, 2, 0, 5));
         Checks.throwsArgument("no such hours", () -> y.pass(25));
         Checks.same("nothing", Answers.all(y), before);
@@ -134,7 +104,7 @@ public final class PartsTest {
 
     @Sentence("If several exceptions apply, the one that is named first is thrown.")
     private static void part0FirstNamed() {
-        Vatcompiler x = withDye(100, "0");
+        Vatcompiler x = Streets.withDye(100, "0");
         Checks.throwsIndex("no recipe, no kind", () -> x.line(1, 4, 0, 0));
         Checks.throwsArgument("no kind, and a hank has it", () -> x.line(0, 4, 0, 0));
         Checks.throwsState("a hank has it", () -> x.line(0, 1, 0, 0));
@@ -142,7 +112,7 @@ public final class PartsTest {
 
     @Sentence("HOUR is 0 at first, 500 at most.")
     private static void part0Hour() {
-        Vatcompiler x = empty();
+        Vatcompiler x = new Vatcompiler();
         Checks.same("at first", x.street(0), 0);
         for (int k = 0; k < 20; k++) {
             x.pass(24);
@@ -160,7 +130,7 @@ public final class PartsTest {
 
     @Sentence("DYES: at most 6, numbered from 0,")
     private static void part1Dyes() {
-        Vatcompiler x = empty();
+        Vatcompiler x = new Vatcompiler();
         for (int k = 0; k < 6; k++) {
             Checks.same("number", x.dye(0, 1, 1, true, 0), k);
         }
@@ -171,7 +141,7 @@ public final class PartsTest {
 
     @Sentence("each with a TINT of three numbers (0 to 9 each),")
     private static void part1Tint() {
-        Vatcompiler x = empty();
+        Vatcompiler x = new Vatcompiler();
         int[] tints = {0, 9, 10, 100, 987, 999};
         for (int k = 0; k < tints.length; k++) {
             x.dye(tints[k], 1, 1, true, 0);
@@ -179,14 +149,14 @@ public final class PartsTest {
             Checks.same("second of " + tints[k], x.ofDye(k, 1), tints[k] / 10 % 10);
             Checks.same("third of " + tints[k], x.ofDye(k, 2), tints[k] % 10);
         }
-        Vatcompiler y = empty();
+        Vatcompiler y = new Vatcompiler();
         Checks.throwsArgument("-1", () -> y.dye(-1, 1, 1, true, 0));
         Checks.throwsArgument("1000", () -> y.dye(1000, 1, 1, true, 0));
     }
 
     @Sentence("a DEPTH (1 to 9),")
     private static void part1Depth() {
-        Vatcompiler x = empty();
+        Vatcompiler x = new Vatcompiler();
         Checks.throwsArgument("0", () -> x.dye(0, 0, 1, true, 0));
         Checks.throwsArgument("10", () -> x.dye(0, 10, 1, true, 0));
         for (int depth : new int[] {1, 2, 8, 9}) {
@@ -196,7 +166,7 @@ public final class PartsTest {
 
     @Sentence("a PRICE (1 to 99),")
     private static void part1Price() {
-        Vatcompiler x = empty();
+        Vatcompiler x = new Vatcompiler();
         Checks.throwsArgument("0", () -> x.dye(0, 1, 0, true, 0));
         Checks.throwsArgument("100", () -> x.dye(0, 1, 100, true, 0));
         for (int price : new int[] {1, 2, 98, 99}) {
@@ -206,7 +176,7 @@ public final class PartsTest {
 
     @Sentence("FAST or not,")
     private static void part1Fast() {
-        Vatcompiler x = empty();
+        Vatcompiler x = new Vatcompiler();
         x.dye(0, 1, 1, true, 0);
         x.dye(0, 1, 1, false, 0);
         Checks.same("fast", x.ofDye(0, 5), 1);
@@ -215,13 +185,13 @@ public final class PartsTest {
 
     @Sentence("and SLOW (0 to 3; 0: it brings nothing later).")
     private static void part1Slow() {
-        Vatcompiler x = empty();
+        Vatcompiler x = new Vatcompiler();
         Checks.throwsArgument("-1", () -> x.dye(0, 1, 1, true, -1));
         Checks.throwsArgument("4", () -> x.dye(0, 1, 1, true, 4));
         for (int slow = 0; slow <= 3; slow++) {
             Checks.same("slow", x.ofDye(x.dye(0, 1, 1, true, slow), 6), slow);
         }
-        Vatcompiler y = withDye(200, true, 0, "0");
+        Vatcompiler y = Streets.withDye(200, true, 0, "0");
         y.dip(1, 0);
         Checks.same("nothing is to come", y.ofHank(0, 7), 0);
         y.pass(4);
@@ -233,7 +203,7 @@ public final class PartsTest {
         Checks.same("45 + 45 + 4 + 4", behindFourDips(24), 98);
         Checks.same("45 + 45 + 5 + 4", behindFourDips(20), 99);
         Checks.same("45 + 45 + 5 + 5", behindFourDips(0), 99);
-        Vatcompiler x = withDye(999, "0*4");
+        Vatcompiler x = Streets.withDye(999, "0*4");
         shade("at first", x, 0, 0, 0, 0);
         for (int k = 0; k < 4; k++) {
             x.dip(1, 0);
@@ -242,7 +212,7 @@ public final class PartsTest {
     }
 
     private static int behindFourDips(int hoursAhead) {
-        Vatcompiler x = empty();
+        Vatcompiler x = new Vatcompiler();
         x.dye(900, 1, 1, true, 0);
         x.dye(100, 1, 1, true, 0);
         Recipes.hank(x, "0*2 1*2");
@@ -262,7 +232,7 @@ public final class PartsTest {
 
     @Sentence("A SHADE is three numbers, 0 at first, 99 at most (what is above is 99).")
     private static void part1ShadeByFoul() {
-        Vatcompiler x = empty();
+        Vatcompiler x = new Vatcompiler();
         x.dye(999, 1, 1, true, 0);
         x.dye(986, 1, 1, true, 0);
         x.dye(236, 1, 1, true, 0);
@@ -292,7 +262,7 @@ public final class PartsTest {
 
     @Sentence("A SHADE is three numbers, 0 at first, 99 at most (what is above is 99).")
     private static void part1ShadeBySlow() {
-        Vatcompiler x = empty();
+        Vatcompiler x = new Vatcompiler();
         x.dye(999, 1, 1, true, 0);
         x.dye(765, 1, 1, true, 0);
         x.dye(345, 1, 1, true, 1);
@@ -327,7 +297,7 @@ public final class PartsTest {
         seen(99, 99, 99, 297, 297);
         seen(99, 0, 1, 100, 74 + 25);
         seen(98, 97, 96, 291, 97 + 96 + 96);
-        Vatcompiler x = empty();
+        Vatcompiler x = new Vatcompiler();
         x.dye(100, 1, 1, true, 0);
         x.dye(20, 1, 1, true, 0);
         Recipes.hank(x, "0");
@@ -344,7 +314,7 @@ public final class PartsTest {
 
     /** How far 0 0 0 is from an aim: what its seen numbers are together. */
     private static void seen(int one, int two, int three, int byDay, int byLamp) {
-        Vatcompiler x = empty();
+        Vatcompiler x = new Vatcompiler();
         x.hank(Recipes.tell(x, one, two, three, "r"));
         String aim = one + " " + two + " " + three;
         Checks.same(aim + " by the light 0", x.ofHank(0, 10), byDay);
@@ -353,7 +323,7 @@ public final class PartsTest {
 
     @Sentence("FAR of two SHADES by a LIGHT: what their seen numbers differ by, without signs, together.")
     private static void part1Far() {
-        Vatcompiler x = empty();
+        Vatcompiler x = new Vatcompiler();
         x.dye(806, 1, 1, true, 0);
         x.dye(241, 1, 1, true, 0);
         x.hank(Recipes.tell(x, 10, 20, 50, "0"));
@@ -377,7 +347,7 @@ public final class PartsTest {
 
     @Sentence("RECIPES: at most 6, numbered from 0,")
     private static void part2Recipes() {
-        Vatcompiler x = empty();
+        Vatcompiler x = new Vatcompiler();
         for (int k = 0; k < 6; k++) {
             Checks.same("number", x.recipe(k, 0, 0), k);
         }
@@ -390,7 +360,7 @@ public final class PartsTest {
     private static void part2Lines() {
         String[] kinds = {"0", "r", "a1", "again1*1"};
         for (String kind : kinds) {
-            Vatcompiler x = empty();
+            Vatcompiler x = new Vatcompiler();
             x.dye(0, 1, 1, true, 0);
             Recipes.tell(x, "r r r r r r r");
             Recipes.tell(x, "r r r r r r r r");
@@ -404,7 +374,7 @@ public final class PartsTest {
 
     @Sentence("0 DIP a DYE so many times (1 to 4);")
     private static void part2Dip() {
-        Vatcompiler x = empty();
+        Vatcompiler x = new Vatcompiler();
         x.dye(0, 1, 1, true, 0);
         x.dye(0, 1, 1, true, 0);
         x.recipe(0, 0, 0);
@@ -420,7 +390,7 @@ public final class PartsTest {
 
     @Sentence("1 RINSE;")
     private static void part2Rinse() {
-        Vatcompiler x = empty();
+        Vatcompiler x = new Vatcompiler();
         x.recipe(0, 0, 0);
         Checks.same("one", x.line(0, 1, 0, 0), 1);
         Checks.same("two", x.line(0, 1, 0, 0), 2);
@@ -431,7 +401,7 @@ public final class PartsTest {
 
     @Sentence("2 AIR so many HOURS (1 to 4);")
     private static void part2Air() {
-        Vatcompiler x = empty();
+        Vatcompiler x = new Vatcompiler();
         Checks.throwsArgument("0 hours", () -> Recipes.tell(x, "a0"));
         Checks.throwsArgument("5 hours", () -> Recipes.tell(x, "a5"));
         Recipes.hank(x, "a1 a2 a3 a4");
@@ -459,7 +429,7 @@ public final class PartsTest {
     }
 
     private static Vatcompiler threeLines() {
-        Vatcompiler x = empty();
+        Vatcompiler x = new Vatcompiler();
         x.dye(0, 1, 1, true, 0);
         x.dye(0, 1, 1, true, 0);
         Recipes.tell(x, "0 1 r");
@@ -484,7 +454,7 @@ public final class PartsTest {
     private static void part2AgainMustBeThere() {
         for (int lines = 0; lines <= 3; lines++) {
             for (int told = 1; told <= 3; told++) {
-                Vatcompiler x = empty();
+                Vatcompiler x = new Vatcompiler();
                 Recipes.tell(x, "r r r".substring(0, Math.max(0, 2 * lines - 1)));
                 String line = "again" + told + "*1";
                 if (told > lines) {
@@ -499,7 +469,7 @@ public final class PartsTest {
 
     @Sentence("and none of them AGAIN)")
     private static void part2AgainOfNoAgain() {
-        Vatcompiler x = empty();
+        Vatcompiler x = new Vatcompiler();
         Recipes.tell(x, "r again1*1");
         Checks.throwsState("the last one is", () -> Recipes.add(x, 0, "again1*1"));
         Checks.throwsState("the last of two is", () -> Recipes.add(x, 0, "again2*1"));
@@ -517,7 +487,7 @@ public final class PartsTest {
         + "at most 10 (what would make more is refused).")
     private static void part2StepsBySingleLines() {
         for (String kind : new String[] {"0", "r", "a4"}) {
-            Vatcompiler x = empty();
+            Vatcompiler x = new Vatcompiler();
             x.dye(0, 1, 1, true, 0);
             Recipes.tell(x, "0*4 0*4 0");
             Checks.same("a tenth: " + kind, Recipes.add(x, 0, kind), 10);
@@ -530,7 +500,7 @@ public final class PartsTest {
     @Sentence("at most 10 (what would make more is refused).")
     private static void part2StepsByManyDips() {
         for (int times = 1; times <= 4; times++) {
-            Vatcompiler x = empty();
+            Vatcompiler x = new Vatcompiler();
             x.dye(0, 1, 1, true, 0);
             Recipes.tell(x, "0*4 0*4");
             String line = "0*" + times;
@@ -553,7 +523,7 @@ public final class PartsTest {
         refused("0*4 r r", "again3*1");
         refused("r r 0*4 0*3", "again1*1");
         refused("0*4 0*4", "again2*3");
-        Vatcompiler x = empty();
+        Vatcompiler x = new Vatcompiler();
         x.dye(0, 1, 1, true, 0);
         Recipes.tell(x, "0*3 0*2");
         Checks.throwsState("11", () -> Recipes.add(x, 0, "again1*3"));
@@ -561,14 +531,14 @@ public final class PartsTest {
     }
 
     private static void steps(String lines, int due) {
-        Vatcompiler x = empty();
+        Vatcompiler x = new Vatcompiler();
         x.dye(0, 1, 1, true, 0);
         Recipes.tell(x, lines);
         Checks.same(lines + ": steps", x.ofRecipe(0, 1), due);
     }
 
     private static void refused(String lines, String last) {
-        Vatcompiler x = empty();
+        Vatcompiler x = new Vatcompiler();
         x.dye(0, 1, 1, true, 0);
         Recipes.tell(x, lines);
         String before = Answers.all(x);
@@ -579,7 +549,7 @@ public final class PartsTest {
     @Sentence("An AIR of several HOURS is one STEP.")
     private static void part2AirIsOneStep() {
         for (int hours = 1; hours <= 4; hours++) {
-            Vatcompiler x = empty();
+            Vatcompiler x = new Vatcompiler();
             Recipes.hank(x, "a" + hours);
             Checks.same("steps", x.ofRecipe(0, 1), 1);
             Checks.same("written", x.steps(0), "a");
@@ -590,7 +560,7 @@ public final class PartsTest {
 
     @Sentence("DIPS is how many STEPS are DIPS.")
     private static void part2Dips() {
-        Vatcompiler x = empty();
+        Vatcompiler x = new Vatcompiler();
         x.dye(0, 1, 1, true, 0);
         Recipes.tell(x, "");
         Checks.same("none", x.ofRecipe(0, 2), 0);
@@ -606,7 +576,7 @@ public final class PartsTest {
 
     @Sentence("VATS: at most 3, numbered from 0,")
     private static void part3Vats() {
-        Vatcompiler x = empty();
+        Vatcompiler x = new Vatcompiler();
         Checks.throwsIndex("none yet", () -> x.bath(false, 0, 0));
         for (int k = 0; k < 3; k++) {
             Checks.same("number", x.vat(), k);
@@ -620,7 +590,7 @@ public final class PartsTest {
 
     @Sentence("and 2 TUBS.")
     private static void part3Tubs() {
-        Vatcompiler x = empty();
+        Vatcompiler x = new Vatcompiler();
         x.vat();
         Checks.throwsIndex("tub -1", () -> x.bath(true, -1, 0));
         Checks.same("tub 0", x.bath(true, 0, 0), -1);
@@ -635,7 +605,7 @@ public final class PartsTest {
     @Sentence("Each of these is empty (at first), or has a BATH: a DYE, STRENGTH (0 to 30), and FOUL: a set of DYES that bled "
         + "into it.")
     private static void part3Empty() {
-        Vatcompiler x = empty();
+        Vatcompiler x = new Vatcompiler();
         x.dye(100, 1, 1, true, 0);
         for (int k = 0; k < 3; k++) {
             x.vat();
@@ -666,7 +636,7 @@ public final class PartsTest {
 
     /** Dye 0 (price 7) bled into dye 1 (price 20) in vat 1; vat 0 holds dye 0. */
     private static Vatcompiler fouled() {
-        Vatcompiler x = empty();
+        Vatcompiler x = new Vatcompiler();
         x.dye(100, 5, 7, false, 0);
         x.dye(10, 5, 20, true, 0);
         Recipes.hank(x, "0 1 0 1");
@@ -702,7 +672,7 @@ public final class PartsTest {
 
     @Sentence("HANKS: at most 10, numbered from 0, each of a RECIPE, with a SHADE, a set of LOOSE DYES, and its next STEP.")
     private static void part3Hanks() {
-        Vatcompiler x = empty();
+        Vatcompiler x = new Vatcompiler();
         Recipes.tell(x, "r");
         Recipes.tell(x, "a1");
         for (int k = 0; k < 10; k++) {
@@ -718,7 +688,7 @@ public final class PartsTest {
 
     @Sentence("One is DONE behind its last STEP.")
     private static void part3Done() {
-        Vatcompiler x = withDye(100, "0*2");
+        Vatcompiler x = Streets.withDye(100, "0*2");
         x.dip(1, 0);
         Checks.same("ahead of the last dip", x.ofHank(0, 5), 0);
         x.dip(1, 0);
@@ -738,7 +708,7 @@ public final class PartsTest {
 
     @Sentence("To DIP a HANK in a VAT: its next STEP is a DIP of the DYE of that BATH,")
     private static void part3DipNextStep() {
-        Vatcompiler x = empty();
+        Vatcompiler x = new Vatcompiler();
         x.dye(100, 1, 1, true, 0);
         x.dye(10, 1, 1, true, 0);
         x.vat();
@@ -771,8 +741,8 @@ public final class PartsTest {
 
     @Sentence("and STRENGTH is 1 or more.")
     private static void part3DipStrength() {
-        Vatcompiler x = withDye(100, "0*3");
-        weaken(x, 2);
+        Vatcompiler x = Streets.withDye(100, "0*3");
+        Streets.weaken(x, 2);
         Checks.same("2", x.can(1, 0), true);
         x.dip(1, 0);
         Checks.same("1", x.can(1, 0), true);
@@ -787,8 +757,8 @@ public final class PartsTest {
         int[] strengths = {30, 29, 26, 25, 24, 23, 20, 19, 18, 14, 13, 12, 8, 7, 6, 5, 2, 1};
         int[] due = {5, 5, 5, 5, 4, 4, 4, 4, 3, 3, 3, 2, 2, 2, 1, 1, 1, 1};
         for (int k = 0; k < strengths.length; k++) {
-            Vatcompiler x = withDye(102, "0");
-            weaken(x, strengths[k]);
+            Vatcompiler x = Streets.withDye(102, "0");
+            Streets.weaken(x, strengths[k]);
             Checks.same("gain by " + strengths[k], x.dip(1, 0), due[k]);
             shade("by " + strengths[k], x, 0, due[k], 0, 2 * due[k]);
         }
@@ -796,7 +766,7 @@ public final class PartsTest {
 
     @Sentence("Each number of SHADE grows by GAIN * that of TINT, and by 1 for each DYE in FOUL that has a TINT above 0 there.")
     private static void part3ShadeGrows() {
-        Vatcompiler x = empty();
+        Vatcompiler x = new Vatcompiler();
         x.dye(19, 5, 1, false, 0);
         x.dye(1, 5, 1, false, 0);
         x.dye(231, 5, 1, true, 0);
@@ -823,13 +793,13 @@ public final class PartsTest {
 
     @Sentence("STRENGTH is 1 less.")
     private static void part3DipWeakens() {
-        Vatcompiler x = withDye(0, "0*4 0*4");
+        Vatcompiler x = Streets.withDye(0, "0*4 0*4");
         for (int k = 1; k <= 8; k++) {
             x.dip(1, 0);
             Checks.same("behind " + k, x.bath(false, 0, 1), 30 - k);
         }
-        Vatcompiler y = withDye(0, "0");
-        weaken(y, 1);
+        Vatcompiler y = Streets.withDye(0, "0");
+        Streets.weaken(y, 1);
         y.dip(1, 0);
         Checks.same("behind 1", y.bath(false, 0, 1), 0);
     }
@@ -839,7 +809,7 @@ public final class PartsTest {
     private static void part3BleedByDepth() {
         int[] due = {0, 1, 1};
         for (int depth = 4; depth <= 6; depth++) {
-            Vatcompiler x = empty();
+            Vatcompiler x = new Vatcompiler();
             x.dye(100, depth, 1, false, 0);
             x.dye(10, 5, 1, true, 0);
             Recipes.hank(x, "0 1 1");
@@ -859,7 +829,7 @@ public final class PartsTest {
 
     @Sentence("LOOSE DYES of the HANK other than this one,")
     private static void part3BleedOther() {
-        Vatcompiler x = withDye(100, false, 0, "0*2");
+        Vatcompiler x = Streets.withDye(100, false, 0, "0*2");
         x.dip(1, 0);
         x.dip(1, 0);
         Checks.same("loose", x.ofHank(0, 6), 1);
@@ -869,10 +839,10 @@ public final class PartsTest {
 
     @Sentence("If the DYE is not FAST, it is LOOSE on the HANK from then on.")
     private static void part3Loose() {
-        Vatcompiler x = withDye(100, true, 0, "0");
+        Vatcompiler x = Streets.withDye(100, true, 0, "0");
         x.dip(1, 0);
         Checks.same("fast", x.ofHank(0, 6), 0);
-        Vatcompiler y = withDye(100, false, 0, "0 r");
+        Vatcompiler y = Streets.withDye(100, false, 0, "0 r");
         Checks.same("not dipped", y.ofHank(0, 6), 0);
         y.dip(1, 0);
         Checks.same("not fast", y.ofHank(0, 6), 1);
@@ -884,7 +854,7 @@ public final class PartsTest {
         + "begins (4), unless it is RINSED ahead of that.")
     private static void part3Slow() {
         for (int slow = 1; slow <= 3; slow++) {
-            Vatcompiler x = withDye(125, true, slow, "0");
+            Vatcompiler x = Streets.withDye(125, true, slow, "0");
             x.pass(2);
             x.dip(1, 0);
             for (int hour = 0; hour < slow; hour++) {
@@ -901,14 +871,14 @@ public final class PartsTest {
 
     @Sentence("GAIN * TINT / 2 (of each number, rounded down)")
     private static void part3SlowHalf() {
-        Vatcompiler x = withDye(123, true, 1, "0");
-        weaken(x, 1);
+        Vatcompiler x = Streets.withDye(123, true, 1, "0");
+        Streets.weaken(x, 1);
         x.dip(1, 0);
         shade("at once", x, 0, 1, 2, 3);
         x.pass(1);
         shade("0, 1 and 1 come", x, 0, 1, 3, 4);
-        Vatcompiler y = withDye(913, true, 1, "0");
-        weaken(y, 13);
+        Vatcompiler y = Streets.withDye(913, true, 1, "0");
+        Streets.weaken(y, 13);
         y.dip(1, 0);
         y.pass(1);
         shade("27, 3, 9 and 13, 1, 4", y, 0, 40, 4, 13);
@@ -916,7 +886,7 @@ public final class PartsTest {
 
     @Sentence("unless it is RINSED ahead of that.")
     private static void part3SlowRinsed() {
-        Vatcompiler x = withDye(200, true, 2, "0*3");
+        Vatcompiler x = Streets.withDye(200, true, 2, "0*3");
         x.dip(1, 0);
         x.pass(1);
         x.rinse(0);
@@ -931,7 +901,7 @@ public final class PartsTest {
 
     @Sentence("To RINSE a HANK: as its next STEP (which is done by that), or besides (at any time, DONE or not);")
     private static void part3Rinse() {
-        Vatcompiler x = withDye(100, "r 0 a2 r r");
+        Vatcompiler x = Streets.withDye(100, "r 0 a2 r r");
         x.rinse(0);
         Checks.same("as its next step", x.ofHank(0, 4), 1);
         x.rinse(0);
@@ -955,7 +925,7 @@ public final class PartsTest {
 
     @Sentence("LOOSE DYES and what is still to come by SLOW ones are gone; a measure of water is let out.")
     private static void part3RinseTakes() {
-        Vatcompiler x = empty();
+        Vatcompiler x = new Vatcompiler();
         x.dye(200, 1, 1, false, 3);
         x.dye(20, 1, 1, false, 3);
         Recipes.hank(x, "0 1 0");
@@ -981,11 +951,11 @@ public final class PartsTest {
 
     /** Ten hanks and a vat of some strength. */
     private static Vatcompiler tenHanks(int strength, String lines) {
-        Vatcompiler x = withDye(100, lines);
+        Vatcompiler x = Streets.withDye(100, lines);
         for (int k = 1; k < 10; k++) {
             x.hank(0);
         }
-        weaken(x, strength);
+        Streets.weaken(x, strength);
         return x;
     }
 
@@ -1035,7 +1005,7 @@ public final class PartsTest {
 
     @Sentence("FOUL as it was ahead counts for all.")
     private static void part3TogetherFoul() {
-        Vatcompiler x = empty();
+        Vatcompiler x = new Vatcompiler();
         x.dye(1, 5, 1, false, 0);
         x.dye(10, 5, 1, true, 0);
         Recipes.hank(x, "0 1 1");
@@ -1059,11 +1029,34 @@ public final class PartsTest {
         shade("for all", x, 2, 0, 10, 1);
     }
 
+    @Sentence("LOOSE DYES of the HANK other than this one, whose DEPTH is no less than that of this one, are in FOUL from then "
+        + "on,")
+    private static void part3TogetherBleed() {
+        Vatcompiler x = new Vatcompiler();
+        x.dye(100, 5, 1, false, 0);
+        x.dye(10, 6, 1, false, 0);
+        x.dye(1, 5, 1, false, 0);
+        x.dye(1, 4, 1, false, 0);
+        Recipes.hank(x, "0 2");
+        Recipes.hank(x, "1 2");
+        Recipes.hank(x, "3 2");
+        x.vat();
+        x.rules(9, 10);
+        for (int dye : new int[] {0, 1, 3}) {
+            x.fill(0, dye);
+            x.dip(dye == 0 ? 1 : dye == 1 ? 2 : 4, 0);
+        }
+        x.fill(0, 2);
+        x.dip(7, 0);
+        Checks.same("of the one 0, of the other 1, of the last none", x.bath(false, 0, 2), 1 + 2);
+        Checks.same("loose on the last", x.ofHank(2, 6), 8 + 4);
+    }
+
     // ---- part 4
 
     @Sentence("An HOUR that goes by: HOUR is 1 more;")
     private static void part4Hour() {
-        Vatcompiler x = empty();
+        Vatcompiler x = new Vatcompiler();
         Checks.same("1", x.pass(1), 1);
         Checks.same("2", x.pass(1), 2);
         Checks.same("26", x.pass(24), 26);
@@ -1072,7 +1065,7 @@ public final class PartsTest {
 
     @Sentence("what SLOW DYES bring by now is gained, HANK by HANK, in the order in which it came;")
     private static void part4SlowComes() {
-        Vatcompiler x = empty();
+        Vatcompiler x = new Vatcompiler();
         x.dye(200, 1, 1, true, 3);
         x.dye(20, 1, 1, true, 1);
         Recipes.hank(x, "0 1 1");
@@ -1098,7 +1091,7 @@ public final class PartsTest {
         shade("not yet", x, 1, 10, 15, 0);
         x.pass(1);
         shade("the other one's, from an hour later", x, 1, 15, 15, 0);
-        Vatcompiler y = withDye(200, true, 3, "0*2");
+        Vatcompiler y = Streets.withDye(200, true, 3, "0*2");
         y.dip(1, 0);
         y.pass(1);
         y.dip(1, 0);
@@ -1106,10 +1099,34 @@ public final class PartsTest {
         shade("hours in one call are hours", y, 0, 30, 0, 0);
     }
 
+    @Sentence("what SLOW DYES bring by now is gained,")
+    private static void part4SlowComesInItsHour() {
+        Vatcompiler x = new Vatcompiler();
+        x.dye(242, 1, 1, true, 1);
+        x.dye(135, 1, 1, true, 3);
+        x.dye(21, 1, 1, true, 2);
+        Recipes.hank(x, "0 1 2");
+        for (int k = 0; k < 3; k++) {
+            x.vat();
+            x.fill(k, k);
+            x.dip(1, k);
+        }
+        shade("at once", x, 0, 15, 45, 40);
+        x.pass(1);
+        shade("5 10 5 come", x, 0, 20, 55, 45);
+        Checks.same("to come", x.ofHank(0, 7), 2);
+        x.pass(1);
+        shade("0 5 2 come", x, 0, 20, 60, 47);
+        Checks.same("to come", x.ofHank(0, 7), 1);
+        x.pass(1);
+        shade("2 7 12 come", x, 0, 22, 67, 59);
+        Checks.same("to come", x.ofHank(0, 7), 0);
+    }
+
     @Sentence("a HANK whose next STEP is to AIR has aired an HOUR more (as many as are told: the STEP is over);")
     private static void part4Air() {
         for (int hours = 1; hours <= 4; hours++) {
-            Vatcompiler x = empty();
+            Vatcompiler x = new Vatcompiler();
             Recipes.hank(x, "a" + hours + " a2 r");
             for (int hour = 0; hour < hours; hour++) {
                 Checks.same("aired", x.ofHank(0, 8), hour);
@@ -1130,7 +1147,7 @@ public final class PartsTest {
 
     @Sentence("a HANK whose next STEP is to AIR has aired an HOUR more")
     private static void part4AirFromItsStepOn() {
-        Vatcompiler x = withDye(100, "0 a2");
+        Vatcompiler x = Streets.withDye(100, "0 a2");
         x.hank(0);
         x.pass(3);
         x.dip(1, 0);
@@ -1148,7 +1165,7 @@ public final class PartsTest {
 
     @Sentence("STRENGTH of each BATH in a VAT or TUB is 1 less in each fourth HOUR (as HOUR becomes a multiple of 4; 0 at least).")
     private static void part4FourthHour() {
-        Vatcompiler x = withDye(100, "0");
+        Vatcompiler x = Streets.withDye(100, "0");
         x.spill(0, 1);
         x.fill(0, 0);
         x.vat();
@@ -1173,7 +1190,7 @@ public final class PartsTest {
 
     @Sentence("0 at least).")
     private static void part4StrengthZero() {
-        Vatcompiler x = withDye(100, "0");
+        Vatcompiler x = Streets.withDye(100, "0");
         x.spill(0, 0);
         x.fill(0, 0);
         for (int k = 0; k < 4; k++) {
@@ -1190,7 +1207,7 @@ public final class PartsTest {
 
     @Sentence("WATER: LIMIT (1 to 9; 4 at first) measures may be let out in an HOUR;")
     private static void part4Limit() {
-        Vatcompiler x = empty();
+        Vatcompiler x = new Vatcompiler();
         Recipes.hank(x, "a1");
         Checks.same("at first", x.street(12), 4);
         rinse(x, 0, 4);
@@ -1209,7 +1226,7 @@ public final class PartsTest {
 
     @Sentence("FILLING a VAT with a BATH lets 2 out")
     private static void part4FillWater() {
-        Vatcompiler x = withDye(100, "0");
+        Vatcompiler x = Streets.withDye(100, "0");
         x.fill(0, 0);
         Checks.same("2", x.street(11), 2);
         x.fill(0, 0);
@@ -1234,7 +1251,7 @@ public final class PartsTest {
 
     @Sentence("(an empty one: none, that is never refused),")
     private static void part4EmptyNeverRefused() {
-        Vatcompiler x = withDye(100, "0");
+        Vatcompiler x = Streets.withDye(100, "0");
         x.vat();
         x.vat();
         rinse(x, 0, 4);
@@ -1253,15 +1270,15 @@ public final class PartsTest {
 
     @Sentence("FILLING a VAT with a BATH lets 2 out (an empty one: none, that is never refused)")
     private static void part4BathOfNoStrengthIsNotEmpty() {
-        Vatcompiler x = withDye(100, "0");
-        weaken(x, 0);
+        Vatcompiler x = Streets.withDye(100, "0");
+        Streets.weaken(x, 0);
         x.fill(0, 0);
         Checks.same("2", x.street(11), 2);
     }
 
     @Sentence("a RINSE 1.")
     private static void part4RinseWater() {
-        Vatcompiler x = empty();
+        Vatcompiler x = new Vatcompiler();
         Recipes.hank(x, "r");
         x.rinse(0);
         Checks.same("as a step", x.street(11), 1);
@@ -1272,7 +1289,7 @@ public final class PartsTest {
 
     @Sentence("What lets water out, so that there would be more than LIMIT, is refused.")
     private static void part4MoreThanLimit() {
-        Vatcompiler x = withDye(100, "r 0");
+        Vatcompiler x = Streets.withDye(100, "r 0");
         x.rules(3, 10);
         x.rinse(0);
         x.fill(0, 0);
@@ -1290,7 +1307,7 @@ public final class PartsTest {
 
     @Sentence("(As an HOUR begins, none was let out in it.)")
     private static void part4NewHour() {
-        Vatcompiler x = withDye(100, "0");
+        Vatcompiler x = Streets.withDye(100, "0");
         rinse(x, 0, 4);
         Checks.throwsState("a fifth", () -> x.rinse(0));
         x.pass(1);
@@ -1298,482 +1315,5 @@ public final class PartsTest {
         rinse(x, 0, 4);
         Checks.throwsState("a fifth", () -> x.rinse(0));
         Checks.same("ever", x.street(10), 8);
-    }
-
-    // ---- part 5
-
-    /** Fast dyes of these prices. */
-    private static Vatcompiler priced(int vats, int... prices) {
-        Vatcompiler x = empty();
-        for (int price : prices) {
-            x.dye(100, 1, price, true, 0);
-        }
-        for (int k = 0; k < vats; k++) {
-            x.vat();
-        }
-        return x;
-    }
-
-    /** Fills, cost, how many fills, plain cost, hanks, needs. */
-    private static void plan(String when, Vatcompiler x, String fills, int... due) {
-        Checks.same(when + ": fills", x.fills(), fills);
-        for (int what = 0; what <= 4; what++) {
-            Checks.same(when + ": plan(" + what + ")", x.plan(what), due[what]);
-        }
-    }
-
-    @Sentence("NEEDS of a HANK: the row of DYES of all its DIPS from its next STEP on, of like ones beside each other only one.")
-    private static void part5Needs() {
-        Vatcompiler x = priced(1, 10, 20);
-        Recipes.hank(x, "0*2 0 r 0 1 a2 1 0");
-        plan("0 1 0", x, "0:0 0:1 0:0", 40, 3, 40, 1, 3);
-        x.fill(0, 0);
-        x.dip(1, 0);
-        plan("one dip is over", x, "0:1 0:0", 30, 2, 40, 1, 3);
-        x.dip(1, 0);
-        x.dip(1, 0);
-        x.rinse(0);
-        plan("one dip is left of 0", x, "0:1 0:0", 30, 2, 40, 1, 3);
-        x.dip(1, 0);
-        plan("1 0", x, "0:1 0:0", 30, 2, 30, 1, 2);
-        x.fill(0, 1);
-        x.dip(1, 0);
-        x.pass(1);
-        plan("in an air between like ones", x, "0:0", 10, 1, 30, 1, 2);
-        x.pass(1);
-        x.dip(1, 0);
-        plan("0", x, "0:0", 10, 1, 10, 1, 1);
-        x.pass(1);
-        x.fill(0, 0);
-        x.dip(1, 0);
-        plan("done", x, "-", 0, 0, 0, 0, 0);
-    }
-
-    @Sentence("A PLAN is for the first 3 HANKS that are not DONE,")
-    private static void part5Hanks() {
-        Vatcompiler x = priced(1, 1, 2, 4, 8);
-        plan("none", x, "-", 0, 0, 0, 0, 0);
-        Recipes.hank(x, "0");
-        plan("one", x, "0:0", 1, 1, 1, 1, 1);
-        Recipes.hank(x, "1");
-        plan("two", x, "0:0 0:1", 3, 2, 3, 2, 2);
-        Recipes.hank(x, "2");
-        plan("three", x, "0:0 0:1 0:2", 7, 3, 7, 3, 3);
-        Recipes.hank(x, "3");
-        plan("three of four", x, "0:0 0:1 0:2", 7, 3, 7, 3, 3);
-        x.fill(0, 1);
-        x.dip(2, 0);
-        plan("one in the middle is done", x, "0:0 0:2 0:3", 13, 3, 13, 3, 3);
-        x.fill(0, 0);
-        x.dip(1, 0);
-        plan("two are left", x, "0:2 0:3", 12, 2, 12, 2, 2);
-    }
-
-    @Sentence("that are not DONE,")
-    private static void part5HankWithoutDipsIsNotDone() {
-        Vatcompiler x = priced(1, 1, 2, 4);
-        Recipes.hank(x, "r");
-        Recipes.hank(x, "a1");
-        Recipes.hank(x, "0");
-        Recipes.hank(x, "1");
-        plan("two without needs", x, "0:0", 1, 1, 1, 3, 1);
-        x.rinse(0);
-        plan("one of them is done", x, "0:0 0:1", 3, 2, 3, 3, 2);
-    }
-
-    @Sentence("and for the first 2 VATS (or the one):")
-    private static void part5Vats() {
-        for (int vats = 1; vats <= 3; vats++) {
-            Vatcompiler x = priced(vats, 10, 20, 40);
-            Recipes.hank(x, "0 1 0 2 0 1");
-            if (vats == 1) {
-                plan("one", x, "0:0 0:1 0:0 0:2 0:0 0:1", 110, 6, 110, 1, 6);
-            } else {
-                plan("two of " + vats, x, "0:0 1:1 0:2 0:0", 80, 4, 110, 1, 6);
-            }
-        }
-        Vatcompiler y = priced(3, 10, 20, 40);
-        Recipes.hank(y, "0 1");
-        y.fill(2, 0);
-        plan("what is in a third vat is not there", y, "0:0 0:1", 30, 2, 30, 1, 2);
-        y.spill(2, 1);
-        plan("nor what is in a tub", y, "0:0 0:1", 30, 2, 30, 1, 2);
-        y.spill(1, 1);
-        plan("in the second vat it is", y, "0:1", 20, 1, 30, 1, 2);
-    }
-
-    @Sentence("a row of FILLS (a VAT, and a DYE that is in none of these VATS then, and that is the next one of the NEEDS of one "
-        + "of these HANKS),")
-    private static void part5FillsOfWhatIsNext() {
-        Vatcompiler x = priced(2, 1, 1, 1);
-        Recipes.hank(x, "0 1 2 0");
-        plan("only as they are needed", x, "0:0 1:1 1:2", 3, 3, 4, 1, 4);
-        x.fill(0, 2);
-        x.fill(1, 2);
-        plan("2 is in both, and not next", x, "0:0 0:1 0:0", 3, 3, 4, 1, 4);
-        x.pass(1);
-        x.fill(0, 0);
-        plan("2 is in the one", x, "0:1 0:0", 2, 2, 4, 1, 4);
-    }
-
-    @Sentence("by which each of them can have its NEEDS in order: whenever a DYE that is the next one of a HANK's NEEDS is in one "
-        + "of these VATS, it has it")
-    private static void part5HasWhatIsThere() {
-        Vatcompiler x = priced(2, 1, 2, 4);
-        Recipes.hank(x, "0 1 0 1 0 1");
-        Recipes.hank(x, "1 0 1 0 1");
-        Recipes.hank(x, "1 2 0");
-        x.fill(0, 0);
-        x.fill(1, 1);
-        plan("2 over 1, 0 stays", x, "1:2", 4, 1, 24, 3, 14);
-        Vatcompiler y = priced(1, 1, 2, 4);
-        Recipes.hank(y, "0 1 0");
-        Recipes.hank(y, "1 0");
-        plan("one fill for both", y, "0:0 0:1 0:0", 4, 3, 7, 2, 5);
-    }
-
-    @Sentence("(STRENGTH, FOUL, water, SLOW ones, RINSES and AIR do not matter; BATHS that are there now count).")
-    private static void part5WhatDoesNotMatter() {
-        Vatcompiler x = empty();
-        x.dye(100, 9, 10, false, 3);
-        x.dye(10, 1, 20, false, 3);
-        x.vat();
-        x.vat();
-        Recipes.hank(x, "0 r 1 a4 0 r 1 0");
-        x.hank(0);
-        x.fill(0, 0);
-        x.fill(1, 1);
-        x.dip(1, 0);
-        x.rinse(0);
-        x.dip(1, 1);
-        plan("both are there", x, "-", 0, 0, 110, 2, 8);
-        for (int k = 0; k < 5; k++) {
-            x.pass(24);
-        }
-        Checks.same("strength", x.bath(false, 0, 1), 0);
-        plan("of no strength", x, "-", 0, 0, 110, 2, 8);
-        x.rules(1, 10);
-        x.rinse(1);
-        x.spill(1, 0);
-        plan("no water is left in the hour", x, "1:1", 20, 1, 110, 2, 8);
-        Vatcompiler y = priced(2, 10, 20);
-        y.rules(1, 10);
-        Recipes.hank(y, "0 1 0 1");
-        y.fill(0, 1);
-        plan("2 of a limit of 1", y, "1:0", 10, 1, 60, 1, 4);
-    }
-
-    @Sentence("Its COST is the PRICES of the DYES.")
-    private static void part5Cost() {
-        Vatcompiler x = priced(1, 99, 1);
-        Recipes.hank(x, "0 1 0 1");
-        plan("each fill", x, "0:0 0:1 0:0 0:1", 200, 4, 200, 1, 4);
-    }
-
-    @Sentence("The BEST PLAN has the least COST; of several the fewest FILLS;")
-    private static void part5LeastCostThenFewestFills() {
-        keepOrFillAgain(5, "0:0 1:1 1:2 1:1 1:2 1:1 1:2", 11, 7);
-        keepOrFillAgain(4, "0:0 0:1 1:2 0:0", 10, 4);
-        keepOrFillAgain(3, "0:0 0:1 1:2 0:0", 8, 4);
-    }
-
-    /** Dye 0 stays in a vat (7 fills: its price and 6), or it is filled twice (4 fills: twice its price and 2). */
-    private static void keepOrFillAgain(int price, String fills, int cost, int count) {
-        Vatcompiler x = priced(2, price, 1, 1);
-        Recipes.hank(x, "0 1 2 again2*2 0");
-        plan("price " + price, x, fills, cost, count, 2 * price + 6, 1, 8);
-    }
-
-    @Sentence("of several that which has at the first FILL in which they differ the smaller VAT, then the smaller DYE.")
-    private static void part5SmallerVatThenDye() {
-        Vatcompiler x = priced(2, 2, 2, 2, 2);
-        Recipes.hank(x, "3");
-        Recipes.hank(x, "1");
-        plan("all are as good", x, "0:1 0:3", 4, 2, 4, 2, 2);
-        Vatcompiler y = priced(2, 2, 2, 2, 2);
-        Recipes.hank(y, "3 1");
-        Recipes.hank(y, "1 2 0");
-        y.fill(0, 2);
-        y.fill(1, 0);
-        plan("0:3, 1:1 and 1:3 are as good, 0:1 is not", y, "0:3 0:1 0:2", 6, 3, 10, 2, 5);
-        Vatcompiler z = priced(2, 2, 2, 2);
-        Recipes.hank(z, "1 0");
-        Recipes.hank(z, "2 0");
-        z.fill(0, 0);
-        plan("the smaller vat is needed", z, "1:1 1:2", 4, 2, 8, 2, 4);
-    }
-
-    @Sentence("Without VATS there is none, unless no NEEDS are left (then it is empty).")
-    private static void part5WithoutVats() {
-        Vatcompiler x = priced(0, 10);
-        plan("no hanks", x, "-", 0, 0, 0, 0, 0);
-        Recipes.hank(x, "r");
-        plan("no needs", x, "-", 0, 0, 0, 1, 0);
-        Recipes.hank(x, "0");
-        plan("a need", x, "none", -1, -1, 10, 2, 1);
-        x.vat();
-        plan("a vat", x, "0:0", 10, 1, 10, 2, 1);
-        x.fill(0, 0);
-        x.dip(2, 0);
-        plan("a vat, no needs", x, "-", 0, 0, 0, 1, 0);
-        x.rinse(0);
-        plan("all done", x, "-", 0, 0, 0, 0, 0);
-    }
-
-    @Sentence("PLAIN COST: the PRICES of all DYES in the NEEDS of these HANKS, each as often as it is there.")
-    private static void part5PlainCost() {
-        Vatcompiler x = priced(2, 99, 99, 99, 99, 99, 99);
-        Recipes.hank(x, "0 1 again2*3 0 1");
-        Recipes.hank(x, "2 3 again2*3 2 3");
-        Recipes.hank(x, "4 5 again2*3 4 5");
-        Recipes.hank(x, "0 1");
-        Checks.same("30 needs", x.plan(4), 30);
-        Checks.same("30 prices", x.plan(2), 2970);
-        Checks.same("each pair in two vats", x.plan(0), 594);
-        Checks.same("six fills", x.fills(), "0:0 1:1 0:2 1:3 0:4 1:5");
-        Vatcompiler y = priced(1, 99, 99, 99, 99, 99, 99);
-        Recipes.hank(y, "0 1 again2*3 0 1");
-        Recipes.hank(y, "2 3 again2*3 2 3");
-        Recipes.hank(y, "4 5 again2*3 4 5");
-        Checks.same("30 fills", y.plan(1), 30);
-        Checks.same("as dear as can be", y.plan(0), 2970);
-        Checks.same("the smaller dye first", y.fills(), "0:0 0:1 0:0 0:1 0:0 0:1 0:0 0:1 0:0 0:1 0:2 0:3 0:2 0:3 0:2 0:3 0:2 0:3 "
-            + "0:2 0:3 0:4 0:5 0:4 0:5 0:4 0:5 0:4 0:5 0:4 0:5");
-    }
-
-    // ---- part 6
-
-    /** One hank of this aim, dipped once in a fresh bath of the tint: 5 times its numbers. */
-    private static Vatcompiler dippedOnce(int tint, int one, int two, int three) {
-        Vatcompiler x = empty();
-        x.dye(tint, 1, 1, true, 0);
-        x.hank(Recipes.tell(x, one, two, three, "0"));
-        x.vat();
-        x.fill(0, 0);
-        x.dip(1, 0);
-        return x;
-    }
-
-    @Sentence("An AIM of a RECIPE is a SHADE.")
-    private static void part6Aim() {
-        Vatcompiler x = empty();
-        x.recipe(0, 1, 99);
-        x.recipe(99, 98, 0);
-        int[] due = {0, 1, 99, 99, 98, 0};
-        for (int k = 0; k < due.length; k++) {
-            Checks.same("number", x.ofRecipe(k / 3, 4 + k % 3), due[k]);
-        }
-        Checks.throwsArgument("100", () -> x.recipe(100, 0, 0));
-        Checks.throwsArgument("100", () -> x.recipe(0, 100, 0));
-        Checks.throwsArgument("100", () -> x.recipe(0, 0, 100));
-        Checks.throwsArgument("-1", () -> x.recipe(-1, 0, 0));
-        Checks.throwsArgument("-1", () -> x.recipe(0, -1, 0));
-        Checks.throwsArgument("-1", () -> x.recipe(0, 0, -1));
-    }
-
-    @Sentence("A HANK that is DONE is GOOD, if FAR of its SHADE from the AIM of its RECIPE is no more than the BAND (10 at first) "
-        + "by each of both LIGHTS; a PAIR by the LIGHT 0 alone; a SECOND otherwise.")
-    private static void part6Standing() {
-        int[] nearByDay = {3, 3, 3, 3, 2, 1, 1};
-        Vatcompiler x = dippedOnce(111, 4, 4, 3);
-        Checks.same("by the light 0", x.ofHank(0, 10), 4);
-        Checks.same("by the light 1", x.ofHank(0, 11), 5);
-        for (int band = 0; band < nearByDay.length; band++) {
-            x.rules(4, band);
-            Checks.same("4 and 5 by a band of " + band, x.ofHank(0, 9), nearByDay[band]);
-        }
-        int[] nearByLamp = {3, 3, 3, 3, 1, 1};
-        Vatcompiler y = dippedOnce(111, 4, 6, 3);
-        Checks.same("by the light 0", y.ofHank(0, 10), 4);
-        Checks.same("by the light 1", y.ofHank(0, 11), 3);
-        for (int band = 0; band < nearByLamp.length; band++) {
-            y.rules(4, band);
-            Checks.same("4 and 3 by a band of " + band, y.ofHank(0, 9), nearByLamp[band]);
-        }
-    }
-
-    @Sentence("is no more than the BAND (10 at first)")
-    private static void part6BandAtFirst() {
-        Checks.same("9", dippedOnce(100, 14, 0, 0).ofHank(0, 9), 1);
-        Checks.same("10", dippedOnce(100, 15, 0, 0).ofHank(0, 9), 1);
-        Checks.same("11", dippedOnce(100, 16, 0, 0).ofHank(0, 9), 3);
-        Checks.same("10, and 11 by the light 1", dippedOnce(111, 2, 2, 1).ofHank(0, 9), 2);
-        Vatcompiler x = dippedOnce(0, 0, 0, 0);
-        x.rules(4, 0);
-        Checks.same("0 by a band of 0", x.ofHank(0, 9), 1);
-        Vatcompiler y = dippedOnce(0, 99, 0, 0);
-        y.rules(4, 99);
-        Checks.same("99 by a band of 99", y.ofHank(0, 9), 1);
-        Vatcompiler z = dippedOnce(0, 99, 1, 0);
-        z.rules(4, 99);
-        Checks.same("100 by a band of 99", z.ofHank(0, 9), 3);
-    }
-
-    @Sentence("A HANK that is DONE is GOOD,")
-    private static void part6NotDone() {
-        Vatcompiler x = withDye(0, "0 r");
-        Checks.same("near, not begun", x.ofHank(0, 9), 0);
-        x.dip(1, 0);
-        Checks.same("near, not done", x.ofHank(0, 9), 0);
-        Checks.same("none is good", x.street(6), 0);
-        x.rinse(0);
-        Checks.same("done", x.ofHank(0, 9), 1);
-        Checks.same("one is good", x.street(6), 1);
-    }
-
-    @Sentence("(What is still to come by SLOW DYES does not matter.)")
-    private static void part6ToComeDoesNotMatter() {
-        Vatcompiler x = empty();
-        x.dye(300, 1, 1, true, 1);
-        x.hank(Recipes.tell(x, 10, 0, 0, "0"));
-        x.hank(Recipes.tell(x, 27, 0, 0, "0"));
-        x.vat();
-        x.fill(0, 0);
-        x.dip(3, 0);
-        Checks.same("15 is near to 10", x.ofHank(0, 9), 1);
-        Checks.same("15 is not near to 27", x.ofHank(1, 9), 3);
-        x.pass(1);
-        Checks.same("22 is not near to 10", x.ofHank(0, 9), 3);
-        Checks.same("22 is near to 27", x.ofHank(1, 9), 1);
-    }
-
-    @Sentence("A MATCH for a SHADE: amounts of 0 to 5 of each of the first 3 DYES (or as many as there are):")
-    private static void part6MatchAmounts() {
-        Vatcompiler x = empty();
-        x.dye(100, 1, 1, true, 0);
-        for (int k = 0; k <= 6; k++) {
-            Checks.same("one dye for " + k, x.match(k, 0, 0, false), Math.min(5, k));
-        }
-        x.dye(10, 1, 1, true, 0);
-        Checks.same("two dyes", x.match(4, 5, 0, false), 45);
-        Checks.same("two dyes", x.match(6, 6, 0, false), 55);
-        x.dye(1, 1, 1, true, 0);
-        Checks.same("three dyes", x.match(5, 4, 5, false), 545);
-        Checks.same("three dyes", x.match(6, 6, 6, false), 555);
-        Checks.same("3 by each light", x.match(6, 6, 6, true), 6);
-        x.dye(222, 1, 1, true, 0);
-        Checks.same("a fourth dye is not mixed", x.match(6, 6, 6, false), 555);
-    }
-
-    @Sentence("what they make is, for each number, the sum of amount * TINT, 99 at most.")
-    private static void part6MatchMakes() {
-        Vatcompiler x = empty();
-        for (int k = 0; k < 3; k++) {
-            x.dye(789, 1, 1, true, 0);
-        }
-        Checks.same("13 of them make 91 99 99", x.match(91, 99, 99, false), 355);
-        Checks.same("14 of them make 98 99 99", x.match(98, 99, 99, false), 455);
-        Checks.same("no farther", x.match(98, 99, 99, true), 0);
-        Checks.same("15 of them make 99 99 99", x.match(99, 99, 99, false), 555);
-        Checks.same("no farther", x.match(99, 99, 99, true), 0);
-        Vatcompiler z = empty();
-        z.dye(912, 1, 1, true, 0);
-        z.dye(31, 1, 1, true, 0);
-        Checks.same("18 2 4 and 0 9 3", z.match(18, 11, 7, false), 23);
-        Checks.same("no farther", z.match(18, 11, 7, true), 0);
-    }
-
-    @Sentence("The BEST MATCH is the least FAR by both LIGHTS together,")
-    private static void part6MatchByBothLights() {
-        Vatcompiler x = empty();
-        x.dye(2, 1, 9, true, 0);
-        x.dye(136, 1, 9, true, 0);
-        Checks.same("10 is nearer by the light 0, 30 by the light 1", x.match(12, 1, 2, false), 20);
-        Checks.same("15 and 10", x.match(12, 1, 2, true), 25);
-    }
-
-    @Sentence("then the least PRICES * amounts,")
-    private static void part6MatchByPrice() {
-        int[] due = {10, 2, 2};
-        for (int price = 1; price <= 3; price++) {
-            Vatcompiler x = empty();
-            x.dye(200, 1, price, true, 0);
-            x.dye(100, 1, 1, true, 0);
-            Checks.same(price + " once, or 1 twice", x.match(2, 0, 0, false), due[price - 1]);
-        }
-        Vatcompiler y = empty();
-        y.dye(200, 1, 3, true, 0);
-        y.dye(100, 1, 1, true, 0);
-        Checks.same("nearer goes ahead of cheaper", y.match(6, 0, 0, false), 14);
-        Checks.same("0 0 0 for nothing", y.match(0, 0, 0, false), 0);
-    }
-
-    @Sentence("then the smallest number of the amounts, written one behind the other (that of the DYE 0 first).")
-    private static void part6MatchBySmallestNumber() {
-        Vatcompiler x = priced(0, 1, 1, 1);
-        Checks.same("one", x.match(1, 0, 0, false), 1);
-        Checks.same("five", x.match(5, 0, 0, false), 5);
-        Checks.same("six", x.match(6, 0, 0, false), 15);
-        Checks.same("eleven", x.match(11, 0, 0, false), 155);
-        Vatcompiler y = priced(0, 1, 2, 1);
-        Checks.same("six, without the dear one", y.match(6, 0, 0, false), 105);
-        Vatcompiler z = priced(0, 2, 2);
-        Checks.same("seven of two", z.match(7, 0, 0, false), 25);
-    }
-
-    @Sentence("A RESCUE of a HANK that is a SECOND: the DYE by one DIP of which in a fresh BATH it would be nearest to its AIM (by "
-        + "both LIGHTS together), if that is nearer than it is.")
-    private static void part6RescueByBothLights() {
-        Vatcompiler x = empty();
-        x.dye(320, 1, 1, true, 0);
-        x.dye(133, 1, 1, true, 0);
-        x.dye(23, 1, 1, true, 0);
-        x.hank(Recipes.tell(x, 3, 14, 2, "r"));
-        x.rules(4, 0);
-        Checks.same("not done", x.rescue(0), -1);
-        x.rinse(0);
-        Checks.same("31, 32 and 32; 1 is nearer by the light 0, 2 by the light 1", x.rescue(0), 0);
-    }
-
-    @Sentence("in a fresh BATH")
-    private static void part6RescueInAFreshBath() {
-        Vatcompiler x = empty();
-        x.dye(900, 1, 1, false, 0);
-        x.dye(100, 1, 1, true, 0);
-        x.hank(Recipes.tell(x, 95, 0, 0, "0*2"));
-        x.rules(4, 0);
-        x.vat();
-        x.fill(0, 0);
-        x.dip(1, 0);
-        x.dip(1, 0);
-        x.fill(0, 1);
-        for (int k = 0; k < 5; k++) {
-            x.pass(24);
-        }
-        Checks.same("the vat has no strength", x.bath(false, 0, 1), 0);
-        Checks.same("90 and 5, and no foul", x.rescue(0), 1);
-    }
-
-    @Sentence("if that is nearer than it is.")
-    private static void part6RescueNearer() {
-        int[] due = {-1, -1, 0, 0, 0};
-        for (int aim = 6; aim <= 10; aim++) {
-            Vatcompiler x = dippedOnce(100, aim, 0, 0);
-            x.rules(4, 0);
-            Checks.same("5 or 10 for " + aim, x.rescue(0), due[aim - 6]);
-        }
-        Vatcompiler y = dippedOnce(100, 7, 0, 0);
-        y.dye(0, 1, 1, true, 0);
-        y.rules(4, 0);
-        Checks.same("as near is not nearer", y.rescue(0), -1);
-        Vatcompiler z = dippedOnce(900, 99, 0, 0);
-        z.dye(990, 1, 1, true, 0);
-        z.rules(4, 0);
-        Checks.same("90 0 0 is nearer to 99 0 0 than 90 45 0", z.rescue(0), 0);
-    }
-
-    @Sentence("A RESCUE of a HANK that is a SECOND:")
-    private static void part6RescueOfSecondsAlone() {
-        Vatcompiler x = dippedOnce(100, 10, 0, 0);
-        Checks.same("good", x.rescue(0), -1);
-        x.rules(4, 5);
-        Checks.same("good at the band", x.rescue(0), -1);
-        x.rules(4, 4);
-        Checks.same("a second", x.rescue(0), 0);
-        Vatcompiler y = dippedOnce(111, 4, 4, 3);
-        y.dye(0, 1, 1, true, 0);
-        y.rules(4, 4);
-        Checks.same("a pair", y.ofHank(0, 9), 2);
-        Checks.same("a pair has none", y.rescue(0), -1);
     }
 }

@@ -622,7 +622,7 @@ public final class PromisesTest {
         Checks.same("good at the band", x.ofHank(0, 9), 1);
         x.rules(4, 16);
         Checks.same("a second by the light 0", x.ofHank(0, 9), 3);
-        Vatcompiler y = dippedOnce(111, 4, 4, 3);
+        Vatcompiler y = Streets.dippedOnce(111, 4, 4, 3);
         Checks.same("5 5 5 and 4 4 3 by the light 0", y.ofHank(0, 10), 4);
         Checks.same("5 5 5 and 4 3 3 by the light 1", y.ofHank(0, 11), 5);
         int[] byBand = {3, 3, 3, 3, 2, 1, 1};
@@ -630,23 +630,11 @@ public final class PromisesTest {
             y.rules(4, band);
             Checks.same("standing by a band of " + band, y.ofHank(0, 9), byBand[band]);
         }
-        Vatcompiler z = dippedOnce(111, 4, 6, 3);
+        Vatcompiler z = Streets.dippedOnce(111, 4, 6, 3);
         Checks.same("5 5 5 and 4 6 3 by the light 0", z.ofHank(0, 10), 4);
         Checks.same("5 5 5 and 4 5 3 by the light 1", z.ofHank(0, 11), 3);
         z.rules(4, 3);
         Checks.same("near by the light 1 alone is a second", z.ofHank(0, 9), 3);
-    }
-
-    private static Vatcompiler dippedOnce(int tint, int one, int two, int three) {
-        Vatcompiler x = empty();
-        x.dye(tint, 1, 1, true, 0);
-        x.recipe(one, two, three);
-        x.line(0, 0, 0, 1);
-        x.hank(0);
-        x.vat();
-        x.fill(0, 0);
-        x.dip(1, 0);
-        return x;
     }
 
     private static void promise18Next() {
@@ -722,7 +710,7 @@ public final class PromisesTest {
         for (int what = 0; what < due.length; what++) {
             Checks.same("street(" + what + ")", x.street(what), due[what]);
         }
-        Vatcompiler y = dippedOnce(111, 4, 4, 3);
+        Vatcompiler y = Streets.dippedOnce(111, 4, 4, 3);
         y.rules(4, 4);
         Checks.same("a pair", y.street(7), 1);
         Checks.same("not good", y.street(6), 0);
@@ -898,12 +886,12 @@ public final class PromisesTest {
         Checks.same("what it brings later counts", x.rescue(1), 3);
         Checks.same("none is nearer", x.rescue(2), -1);
         Checks.same("the one without what comes later", x.rescue(3), 1);
-        Vatcompiler y = dippedOnce(100, 7, 0, 0);
+        Vatcompiler y = Streets.dippedOnce(100, 7, 0, 0);
         y.rules(4, 0);
         Checks.same("nearer, not as near: 10 to 7", y.rescue(0), -1);
         y.dye(0, 1, 1, true, 0);
         Checks.same("as near is not nearer", y.rescue(0), -1);
-        Vatcompiler z = dippedOnce(100, 10, 0, 0);
+        Vatcompiler z = Streets.dippedOnce(100, 10, 0, 0);
         z.dye(100, 1, 1, true, 0);
         z.rules(4, 0);
         Checks.same("of equal ones the smaller", z.rescue(0), 0);
