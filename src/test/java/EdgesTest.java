@@ -540,6 +540,27 @@ public final class EdgesTest {
         }
     }
 
+    /** The same when the plan was asked ahead, with the last dye in both vats, which are empty since. */
+    @Sentence("what would be (nothing is changed)")
+    private static void promise21PlanAskedOfOtherBaths() {
+        for (boolean isAsked : new boolean[] {false, true}) {
+            Vatcompiler x = withDyes(0, 0, 0, 0, 0, 0);
+            Recipes.tell(x, "0");
+            x.hank(0);
+            x.hank(0);
+            Recipes.hank(x, "2 1");
+            x.fill(0, 5);
+            x.fill(1, 5);
+            if (isAsked) {
+                Checks.same("5 in both", numbers(5, x::plan), "3 3 4 3 4");
+            }
+            x.spill(0, 0);
+            x.spill(1, 1);
+            x.dip(4, 2);
+            Checks.same("none in both", numbers(5, x::plan), "2 2 3 3 3");
+        }
+    }
+
     /** Some way on: foul, loose and slow ones, an air, water let out. */
     private static Vatcompiler middle() {
         Vatcompiler x = empty();
